@@ -12,6 +12,7 @@ public final class ValueNeededTest {
         nearSigns();
         reckoned();
         rightAsText();
+        afterErrors();
         Calls.end();
     }
 
@@ -90,5 +91,20 @@ public final class ValueNeededTest {
         Calls.dueError("0?08:1");
         Calls.dueError("0?:1");
         Calls.dueError("0?(1:1");
+    }
+
+    /** An error leaves nothing behind that the next text would feel. */
+    private static void afterErrors() {
+        ShellSum sum = new ShellSum();
+        String[] unended = {"0&&(", "1||(", "0?(", "1?2:(", "0&&1||1&&0&&08"};
+        for (int i = 0; i < unended.length; i++) {
+            Calls.due("value of " + unended[i], Calls.answer(sum, unended[i]), Calls.ERROR);
+            Calls.due("what is needed after it", Calls.answer(sum, "b=" + (i + 5)), i + 5L);
+            Calls.dueText(sum, "b", "" + (i + 5));
+        }
+        for (int i = 0; i < 50; i++) {
+            Calls.due("signs without an end", Calls.answer(sum, "1||1&&1|1+1*"), Calls.ERROR);
+        }
+        Calls.due("signs after them", Calls.answer(sum, "2|4+1*3"), 7L);
     }
 }
