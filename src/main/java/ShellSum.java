@@ -214,7 +214,7 @@ public final class ShellSum {
         }
 
         private boolean isCalled(char[] other, int start, int end) {
-            if (end - start != letters.length || end > other.length) {
+            if (start < 0 || end > other.length || end - start != letters.length) {
                 return false;
             }
             for (int i = 0; i < letters.length; i++) {

@@ -100,12 +100,25 @@ public final class ValueAssignTest {
         String[] texts = {"b=5 6", "b=5)", "(b=5", "b=5 $", "(b=5)+", "(b=5)/0", "(b=5)+1/0", "b=5=6", "1?b=5", "1?b=5:", "1?b=5:08", "c=(b=5)+",
             "c=(b=5)/0", "(b=5)+bad", "(b=5)(", "(b=5)+09", "((b=5)", "b=5:", "(b=5)||", "c=b=5 c", "(b=5)+(" + "-".repeat(40) + "1)"};
         for (String text : texts) {
-            ShellSum sum = new ShellSum();
-            Calls.put(sum, "bad", "x");
-            Calls.put(sum, "b", "1");
-            Calls.due("value of " + text, Calls.answer(sum, text), Calls.ERROR);
-            Calls.dueText(sum, "b", "5");
+            dueAfterError(text, "5");
         }
+        // A sign with = just behind it is none of two, so that the assignment ends ahead of it.
+        String[] ended = {"b=5|=6", "b=5^=6", "b=5&=6", "b=5<<=6", "b=5>>=6", "b=5+=6", "b=5-=6", "b=5*=6", "b=5/=6", "b=5%=6", "b=5!6", "b=5~6"};
+        for (String text : ended) {
+            dueAfterError(text, "5");
+        }
+        String[] unended = {"b=5||=6", "b=5&&=6", "b=5===6", "b=5!==6", "b=5<==6", "b=5>==6", "b=5<=", "b=5>=", "b=5+ =6", "b=5<< =6"};
+        for (String text : unended) {
+            dueAfterError(text, "1");
+        }
+    }
+
+    private static void dueAfterError(String text, String want) {
+        ShellSum sum = new ShellSum();
+        Calls.put(sum, "bad", "x");
+        Calls.put(sum, "b", "1");
+        Calls.due("value of " + text, Calls.answer(sum, text), Calls.ERROR);
+        Calls.dueText(sum, "b", want);
     }
 
     private static void changesNothingInError() {
