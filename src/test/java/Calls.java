@@ -42,7 +42,7 @@ final class Calls {
     }
 
     static Object answer(ShellSum sum, String text) {
-        type(sum, text);
+        due("length after " + text, type(sum, text), text.length());
         return value(sum);
     }
 
@@ -57,14 +57,61 @@ final class Calls {
     /** The text of a name, read letter by letter; null when it has none. The name is at hand then. */
     static String textOf(ShellSum sum, String name) {
         name(sum, name);
-        if (sum.count(2) == ShellSum.NONE) {
+        int length = sum.count(2);
+        if (length == ShellSum.NONE) {
             return null;
         }
         StringBuilder text = new StringBuilder();
-        for (int i = 0; sum.letter(i) != ShellSum.NONE; i++) {
+        for (int i = 0; i < length; i++) {
             text.append((char) sum.letter(i));
         }
         return text.toString();
+    }
+
+    /** An object that holds something everywhere, for calls that must change nothing; dueInUse knows what. */
+    static ShellSum inUse() {
+        ShellSum sum = new ShellSum();
+        answer(sum, "c=-5");
+        answer(sum, "1");
+        answer(sum, "1+");
+        put(sum, "b", "34");
+        type(sum, "12");
+        return sum;
+    }
+
+    /** That an object holds what inUse gave it, told by each call that can tell something of it. */
+    static void dueInUse(String call, ShellSum sum) {
+        int[] counts = {2, 2, 2, 2, 1};
+        for (int what = 0; what < counts.length; what++) {
+            due("count(" + what + ") after " + call, sum.count(what), counts[what]);
+        }
+        int[] letters = {'3', '4', ShellSum.NONE};
+        for (int i = 0; i < letters.length; i++) {
+            due("letter(" + i + ") after " + call, sum.letter(i), letters[i]);
+        }
+        due("value() after " + call, value(sum), 12L);
+        due("b after " + call, answer(sum, "b"), 34L);
+        due("c after " + call, answer(sum, "c"), -5L);
+        sum.put('7', 1);
+        due("the name at hand after " + call, answer(sum, "b"), 7L);
+    }
+
+    static boolean isOfText(int c) {
+        return c == 9 || c == 10 || c >= 32 && c <= 126;
+    }
+
+    static boolean startsName(int c) {
+        return c >= 'a' && c <= 'z' || c >= 'A' && c <= 'Z' || c == '_';
+    }
+
+    static boolean isOfName(int c) {
+        return startsName(c) || c >= '0' && c <= '9';
+    }
+
+    /** Eight characters that are the same but for one, in a long as the calls take them. */
+    static long eightButOne(char most, int place, int one) {
+        long shift = 8L * (7 - place);
+        return pack(("" + most).repeat(8)) & ~(255L << shift) | (long) one << shift;
     }
 
     static void dueValue(String text, long want) {
