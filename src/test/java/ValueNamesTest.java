@@ -8,6 +8,7 @@ public final class ValueNamesTest {
         numbers();
         negativeNumbers();
         noNumbers();
+        eachCharacter();
         shorterThanBefore();
         Calls.end();
     }
@@ -110,6 +111,34 @@ public final class ValueNamesTest {
             Calls.due("promise 3, x=1", Calls.answer(sum, "x=1"), 1L);
             Calls.dueText(sum, "x", "1");
         }
+    }
+
+    /** Promise 3, terms: "a name whose text is no number": each character of a text, as a digit of each kind of number. */
+    private static void eachCharacter() {
+        for (int c = 0; c < 127; c++) {
+            if (Calls.isOfText(c)) {
+                dueDigit("", c, 10);
+                dueDigit("-", c, 10);
+                dueDigit("1", c, 10);
+                dueDigit("-1", c, 10);
+                dueDigit("0", c, 8);
+                dueDigit("-01", c, 8);
+                dueDigit("0x", c, 16);
+                dueDigit("-0X1", c, 16);
+            }
+        }
+    }
+
+    private static void dueDigit(String ahead, int c, int base) {
+        String text = ahead + (char) c;
+        String digits = ahead.replaceAll("[-xX]", "") + (char) c;
+        Object want = Character.digit(c, base) < 0 ? (Object) Calls.ERROR : (Object) Long.parseLong(digits, base);
+        if (ahead.startsWith("-") && !want.equals(Calls.ERROR)) {
+            want = -(Long) want;
+        }
+        ShellSum sum = new ShellSum();
+        Calls.put(sum, "x", text);
+        Calls.due("promise 3, x with the text " + text, Calls.answer(sum, "x"), want);
     }
 
     /** Promise 3, terms: "the number that its text is": nothing of a longer text that the name had before is left. */

@@ -69,6 +69,8 @@ public final class ValueRanksTest {
         Calls.dueValue("1" + "+1".repeat(149), 150);
         Calls.dueValue("0" + "-1".repeat(149), -149);
         Calls.dueValue("0||1&&1|1^1&1==1<1<<1+1*(".repeat(8) + "1" + ")".repeat(8), 1);
+        // Here 126 signs stand open at once.
+        Calls.dueValue("1|1^1&1<1+1*(".repeat(21) + "1" + ")".repeat(21), 1);
     }
 
     /** Promise 3, terms: "a sign is the longest that fits": none is read as two shorter ones, or as one with more behind it. */
